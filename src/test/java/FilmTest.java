@@ -160,6 +160,17 @@ public final class FilmTest {
         x.say(0, 3, 0, 0, 0);
         x.wanted(0, 99);
         due("LOSS of a row", x.ofLine(0, 7), 39);
+        x.say(0, 0, 0, 0, 0);
+        x.become(0, 0);
+        due("NOTICED, OFF 5", x.ofLine(0, 8), 1);
+        x.minutes(19);
+        due("NOTICED, OFF 5 by MINUTE 19", x.ofLine(0, 8), 1);
+        x.minutes(1);
+        due("NOTICED, OFF 5 by MINUTE 20", x.ofLine(0, 8), 0);
+        Due.text(x, 1, "l-99");
+        due("NOTICED, LOSS 99", x.ofLine(0, 8), 0);
+        x.wanted(0, 98);
+        due("NOTICED, LOSS 98", x.ofLine(0, 8), 1);
     }
 
     private static void ends() {

@@ -195,6 +195,9 @@ public final class RestTest {
         due("mouths(1)", x.mouths(1), 0);
         due("mouths(2)", x.mouths(2), Due.NONE);
         due("mouths(3)", x.mouths(3), 1);
+        x.put(0, 0, 9);
+        due("sheet(0, 8, 40) anew", x.sheet(0, 8, 40), 1);
+        due("mouths(0), all 0 anew", x.mouths(0), 40);
         x.put(0, 39, 9);
         due("sheet(0, 8, 41)", x.sheet(0, 8, 41), Due.BEYOND);
         due("sheet(0, 8, -1)", x.sheet(0, 8, -1), Due.STATE);
@@ -324,6 +327,11 @@ public final class RestTest {
         due("judge(0), two are too many", x.judge(0), 3);
         x.put(0, 1, 16);
         due("judge(0), 1 ahead of them", x.judge(0), 1);
+        x.put(0, 1, 15);
+        x.put(0, 3, 1);
+        due("judge(0), one that could be a LINE's is too many", x.judge(0), 3);
+        x.line(30, 0, 1);
+        due("judge(1), one that is 0 lacks", x.judge(1), 3);
         due("judge(2)", x.judge(2), Due.NONE);
         due("judge(-1)", x.judge(-1), Due.BEYOND);
         due("judge(4)", x.judge(4), Due.BEYOND);
@@ -378,6 +386,30 @@ public final class RestTest {
         due("told(2)", y.told(2), 1);
     }
 
+    /** What comes anew behind an IMAGE that lacked it has nothing of what was there ahead. */
+    private static void anew() {
+        due.promise("promise 36, what comes anew");
+        LipsThatFit x = new LipsThatFit();
+        x.image();
+        x.word(12312, 7);
+        x.line(55, 3, 4);
+        x.wanted(0, 50);
+        x.say(0, 1, 0, 0, 0);
+        due("restore()", x.restore(), 0);
+        due("count(0)", x.count(0), 0);
+        due("count(1)", x.count(1), 0);
+        due("word(2, 1)", x.word(2, 1), 0);
+        due("line(6, 1, 2)", x.line(6, 1, 2), 0);
+        due("ofWord(0, 0)", x.ofWord(0, 0), 2);
+        due("ofWord(0, 1)", x.ofWord(0, 1), 1);
+        int[] want = {0, 6, 1, 2, 0, 0, 2, 0};
+        for (int what = 0; what < want.length; what++) {
+            due("ofLine(0, " + what + ")", x.ofLine(0, what), want[what]);
+        }
+        due("said(0, 0)", x.said(0, 0), Due.NONE);
+        due("say(0, 1, 0, 0, 0)", x.say(0, 1, 0, 0, 0), 6);
+    }
+
     private static LipsThatFit filled() {
         LipsThatFit x = new LipsThatFit();
         x.mouth(3, 4, 2);
@@ -386,7 +418,7 @@ public final class RestTest {
         x.line(14, 2, 6);
         x.line(66, 20, 3);
         x.wanted(0, 90);
-        x.say(0, 2, 1, 0, 0);
+        x.say(0, 3, 1, 0, 1);
         Due.text(x, 0, "f*5+w+n");
         Due.text(x, 1, "o-l+t");
         x.like(1, 2, 33);
@@ -401,7 +433,7 @@ public final class RestTest {
     private static void spoil(LipsThatFit x) {
         x.mouth(0, 60, 1);
         x.word(2, 99);
-        x.say(0, 1, 0, 0, 0);
+        x.say(0, 3, 0, 2, 2);
         x.say(1, 2, 2, 2, 0);
         x.line(0, 0, 9);
         x.become(0, 55);
@@ -416,8 +448,11 @@ public final class RestTest {
         x.like(3, 3, 9);
         x.matinees(50);
         x.check();
+        x.tell(5);
+        x.tell(6);
+        x.tell(7);
         x.seed(99);
-        Due.feed(x, "abc");
+        Due.feed(x, "ab");
     }
 
     /** Much of what an IMAGE keeps; what is read away is put back. */
@@ -434,6 +469,7 @@ public final class RestTest {
         }
         seen[at++] = x.said(0, 0);
         seen[at++] = x.said(0, 1);
+        seen[at++] = x.said(0, 2);
         for (int word = 0; word < 2; word++) {
             seen[at++] = x.ofWord(word, 0);
             seen[at++] = x.ofWord(word, 2);
@@ -445,9 +481,8 @@ public final class RestTest {
         seen[at++] = x.law(1, 30, 4, 7);
         seen[at++] = x.like(1, 2, 33);
         seen[at++] = x.like(3, 3, 0);
-        // a text that is on THE TAPE is read for NOTICE and put back on it with the law that was
-        int tape = x.text(1);
-        seen[at++] = tape;
+        // what is on THE TAPE is told by the TEXT that it is; then all is put back
+        seen[at++] = x.text(1);
         seen[at++] = x.law(1, 30, 4, 7);
         Due.text(x, 1, "o-l+t");
         Due.feed(x, "t+7");
@@ -574,6 +609,7 @@ public final class RestTest {
         mouths();
         judge();
         image();
+        anew();
         tell();
         check();
         count();
