@@ -84,7 +84,7 @@ public final class LipsThatFit {
         if (now.wordCount >= MOST_WORDS) {
             return error(FULL);
         }
-        now.words[now.wordCount].become(syllables, sense);
+        now.words[now.wordCount].spell(syllables, sense);
         now.wordCount++;
         return now.wordCount - 1;
     }
@@ -195,7 +195,7 @@ public final class LipsThatFit {
         if (fault >= 0) {
             return -10 - fault;
         }
-        now.textOf(use).become(reader.code, reader.size);
+        now.textOf(use).hold(reader.code, reader.size);
         return 1;
     }
 
@@ -604,7 +604,7 @@ public final class LipsThatFit {
         int length = 0;
         int sense = 0;
 
-        void become(int syllables, int itsSense) {
+        void spell(int syllables, int itsSense) {
             digits = syllables;
             sense = itsSense;
             length = 0;
@@ -706,8 +706,8 @@ public final class LipsThatFit {
             for (int i = 0; i < MOST_LINES; i++) {
                 lines[i].copy(other.lines[i]);
             }
-            apart.become(other.apart.code, other.apart.size);
-            notice.become(other.notice.code, other.notice.size);
+            apart.hold(other.apart.code, other.apart.size);
+            notice.hold(other.notice.code, other.notice.size);
             wordCount = other.wordCount;
             lineCount = other.lineCount;
             tapeSize = other.tapeSize;
@@ -861,7 +861,7 @@ public final class LipsThatFit {
         final int[] stack = new int[MOST_BYTES];
         int size = 0;
 
-        void become(int[] itsCode, int itsSize) {
+        void hold(int[] itsCode, int itsSize) {
             size = Math.max(0, Math.min(MOST_BYTES, itsSize));
             System.arraycopy(itsCode, 0, code, 0, MOST_BYTES);
         }
