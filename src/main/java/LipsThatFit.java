@@ -124,7 +124,7 @@ public final class LipsThatFit {
             case 5: return of.size;
             case 6: return now.off(of);
             case 7: return now.loss(of);
-            case 8: return now.isNoticed(of) ? 1 : 0;
+            case 8: return now.noticeBy(now.off(of), now.loss(of), now.minute) != 0 ? 1 : 0;
             default: return endsOf(of.kind, of.m, 2);
         }
     }
@@ -784,10 +784,6 @@ public final class LipsThatFit {
             return Math.max(0, line.wanted - sense);
         }
 
-        boolean isNoticed(Line line) {
-            return noticeBy(off(line), loss(line), minute) != 0;
-        }
-
         int offOfAll() {
             int sum = 0;
             for (int i = 0; i < lineCount; i++) {
@@ -807,7 +803,7 @@ public final class LipsThatFit {
         int noticedOfAll() {
             int sum = 0;
             for (int i = 0; i < lineCount; i++) {
-                sum += isNoticed(lines[i]) ? 1 : 0;
+                sum += noticeBy(off(lines[i]), loss(lines[i]), minute) != 0 ? 1 : 0;
             }
             return sum;
         }
@@ -874,7 +870,7 @@ public final class LipsThatFit {
                     stack[top] = valueOf(code[i], a, b, c);
                     top++;
                 } else if (sign == '!' && top > 0) {
-                    stack[top - 1] = truth(stack[top - 1] == 0);
+                    stack[top - 1] = stack[top - 1] == 0 ? 1 : 0;
                 } else if (sign > 0 && top > 1) {
                     top--;
                     stack[top - 1] = join(sign, stack[top - 1], stack[top]);
@@ -894,11 +890,11 @@ public final class LipsThatFit {
 
         private static int join(int sign, int a, int b) {
             switch (sign) {
-                case '|': return truth(a != 0 || b != 0);
-                case '&': return truth(a != 0 && b != 0);
-                case '<': return truth(a < b);
-                case '=': return truth(a == b);
-                case '>': return truth(a > b);
+                case '|': return a != 0 || b != 0 ? 1 : 0;
+                case '&': return a != 0 && b != 0 ? 1 : 0;
+                case '<': return a < b ? 1 : 0;
+                case '=': return a == b ? 1 : 0;
+                case '>': return a > b ? 1 : 0;
                 case '+': return a + b;
                 case '-': return a - b;
                 case '*': return a * b;
@@ -906,10 +902,6 @@ public final class LipsThatFit {
                 case '%': return b == 0 ? 0 : a % b;
                 default: return 0;
             }
-        }
-
-        private static int truth(boolean is) {
-            return is ? 1 : 0;
         }
     }
 

@@ -18,8 +18,12 @@ final class Due {
     }
 
     void due(String call, long got, long want) {
+        same(call, got, want);
+    }
+
+    void same(String call, Object got, Object want) {
         asked++;
-        if (got != want) {
+        if (!got.equals(want)) {
             wrong++;
             System.out.println(part + ": " + call + " answered " + got + ", due is " + want);
         }

@@ -1,0 +1,4 @@
+/** A call on an object. */
+interface Act {
+    long on(LipsThatFit x);
+}
