@@ -107,7 +107,8 @@ public final class ChangesTest {
         due.promise("promise 28");
         twins.changes("voice(0, 2, 9)", x -> x.voice(0, 2, 9), 5, "count(9)", "trace(");
         due.promise("promises 30 to 32");
-        twins.changes("sheet(0, 8, 3)", x -> x.sheet(0, 8, 3), 1, "SHEET 0's number ");
+        twins.changes("sheet(0, 8, 3)", x -> x.sheet(0, 8, 3), 1, "SHEET 0's number 0",
+                "SHEET 0's number 1", "SHEET 0's number 2");
         twins.changes("sheet(3, 8, 2)", x -> x.sheet(3, 8, 2), 1, "SHEET 3's ");
         twins.changes("sheet(0, 0, 2)", x -> x.sheet(0, 0, 2), 1, "SHEET 0's ");
         twins.changes("put(1, 1, 2)", x -> x.put(1, 1, 2), 1, "SHEET 1's number 1");
@@ -180,6 +181,23 @@ public final class ChangesTest {
             spoil(x);
             return x.restore();
         }, 12);
+        due.promise("promise 36: an IMAGE of a new object");
+        Twins first = new Twins(due, () -> {
+            LipsThatFit x = new LipsThatFit();
+            x.image();
+            return x;
+        });
+        first.changes("all things, restore()", x -> {
+            for (int i = 0; i < 3; i++) {
+                x.word(123, 9);
+                x.line(0, 0, 4);
+                x.say(i, 1, i, 0, 0);
+            }
+            Due.text(x, 0, "7");
+            Due.text(x, 1, "8");
+            spoil(x);
+            return x.restore();
+        }, 0);
         due.promise("promise 35: how often that was done");
         LipsThatFit x = new LipsThatFit();
         for (int i = 1; i <= 5; i++) {

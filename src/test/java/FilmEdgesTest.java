@@ -58,6 +58,8 @@ public final class FilmEdgesTest {
         x.line(0, 0, 3);
         // WIDE, ROUND, CLOSED: 16 and 2; 3 and 1; 0
         due("say(0, 1, 5, 0, 0)", x.say(0, 1, 5, 0, 0), 18 + 4);
+        // the tenth one: WIDE three times, and two too many
+        due("say(0, 1, 9, 0, 0)", x.say(0, 1, 9, 0, 0), 18 + 8 + 2 + 2);
     }
 
     private static void lines() {

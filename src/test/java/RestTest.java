@@ -352,43 +352,9 @@ public final class RestTest {
         }
     }
 
-    private static void image() {
-        due.promise("promises 35 and 36");
-        LipsThatFit x = filled();
-        int[] before = look(x);
-        due("image()", x.image(), 1);
-        spoil(x);
-        x.sheet(0, 8, 1);
-        x.put(0, 0, 2);
-        x.voice(0, 0, 0);
-        due("restore()", x.restore(), 12);
-        same("restored", look(x), before);
-        due("THE TRACE stays", x.count(9), 1);
-        due("SHEETS stay", x.mouths(0), 1);
-        due("mouthAt(0)", x.mouthAt(0), 2);
-        spoil(x);
-        x.restore();
-        same("restored again", look(x), before);
-        x.mouth(0, 1, 3);
-        due("image() again", x.image(), 2);
-        x.mouth(0, 1, 0);
-        x.restore();
-        due("the later IMAGE", x.mouthAt(0), 3);
-        due("image() a third time", x.image(), 3);
-        x.as(0, 9);
-        int told = x.told(1);
-        x.restore();
-        due("told(1) stays", x.told(1), told);
-        LipsThatFit y = new LipsThatFit();
-        y.minutes(5);
-        due("restore() of none", y.restore(), Due.NONE);
-        due("count(2)", y.count(2), 5);
-        due("told(2)", y.told(2), 1);
-    }
-
     /** What comes anew behind an IMAGE that lacked it has nothing of what was there ahead. */
     private static void anew() {
-        due.promise("promise 36, what comes anew");
+        due.promise("promises 35 and 36, what comes anew");
         LipsThatFit x = new LipsThatFit();
         x.image();
         x.word(12312, 7);
@@ -408,96 +374,6 @@ public final class RestTest {
         }
         due("said(0, 0)", x.said(0, 0), Due.NONE);
         due("say(0, 1, 0, 0, 0)", x.say(0, 1, 0, 0, 0), 6);
-    }
-
-    private static LipsThatFit filled() {
-        LipsThatFit x = new LipsThatFit();
-        x.mouth(3, 4, 2);
-        x.word(123, 40);
-        x.word(31, 7);
-        x.line(14, 2, 6);
-        x.line(66, 20, 3);
-        x.wanted(0, 90);
-        x.say(0, 3, 1, 0, 1);
-        Due.text(x, 0, "f*5+w+n");
-        Due.text(x, 1, "o-l+t");
-        x.like(1, 2, 33);
-        x.minutes(3);
-        x.matinees(9);
-        x.tell(2);
-        x.tell(8);
-        Due.feed(x, "t+7");
-        return x;
-    }
-
-    private static void spoil(LipsThatFit x) {
-        x.mouth(0, 60, 1);
-        x.word(2, 99);
-        x.say(0, 3, 0, 2, 2);
-        x.say(1, 2, 2, 2, 0);
-        x.line(0, 0, 9);
-        x.become(0, 55);
-        x.become(1, 7);
-        x.wanted(0, 4);
-        x.wanted(1, 5);
-        Due.text(x, 0, "1");
-        x.text(0);
-        Due.text(x, 0, "1");
-        Due.text(x, 1, "2");
-        x.like(1, 2, 4);
-        x.like(3, 3, 9);
-        x.matinees(50);
-        x.check();
-        x.tell(5);
-        x.tell(6);
-        x.tell(7);
-        x.seed(99);
-        Due.feed(x, "ab");
-    }
-
-    /** Much of what an IMAGE keeps; what is read away is put back. */
-    private static int[] look(LipsThatFit x) {
-        int[] seen = new int[80];
-        int at = 0;
-        for (int what = 0; what <= 10; what++) {
-            seen[at++] = what == 9 ? 0 : x.count(what);
-        }
-        for (int line = 0; line < 2; line++) {
-            for (int what = 0; what <= 9; what++) {
-                seen[at++] = x.ofLine(line, what);
-            }
-        }
-        seen[at++] = x.said(0, 0);
-        seen[at++] = x.said(0, 1);
-        seen[at++] = x.said(0, 2);
-        for (int word = 0; word < 2; word++) {
-            seen[at++] = x.ofWord(word, 0);
-            seen[at++] = x.ofWord(word, 2);
-        }
-        for (int i = 0; i < 10; i++) {
-            seen[at++] = x.mouthAt(i);
-        }
-        seen[at++] = x.law(0, 3, 2, 1);
-        seen[at++] = x.law(1, 30, 4, 7);
-        seen[at++] = x.like(1, 2, 33);
-        seen[at++] = x.like(3, 3, 0);
-        // what is on THE TAPE is told by the TEXT that it is; then all is put back
-        seen[at++] = x.text(1);
-        seen[at++] = x.law(1, 30, 4, 7);
-        Due.text(x, 1, "o-l+t");
-        Due.feed(x, "t+7");
-        x.mouth(0, 1, 2);
-        seen[at++] = x.check();
-        x.mouth(0, 1, 0);
-        x.tell(2);
-        x.tell(8);
-        return seen;
-    }
-
-    private static void same(String what, int[] got, int[] want) {
-        for (int i = 0; i < want.length; i++) {
-            due(what + ", look " + i, got[i], want[i]);
-        }
     }
 
     private static void tell() {
@@ -608,7 +484,6 @@ public final class RestTest {
         move();
         mouths();
         judge();
-        image();
         anew();
         tell();
         check();

@@ -35,10 +35,11 @@ public final class TextsEdgesTest {
         due("a byte above 255 is cut", x.text(1), 1);
     }
 
-    private static LipsThatFit faultOf(LipsThatFit x, String text, int fault) {
+    /** A TEXT of USE 0 that has a FAULT there, or (below 0) none. */
+    private static void faultOf(String text, int fault) {
+        LipsThatFit x = new LipsThatFit();
         due("text(0) of " + text, Due.text(x, 0, text), fault < 0 ? 1 : -10 - fault);
         due("count(7) behind " + text, x.count(7), 0);
-        return x;
     }
 
     /** Each byte, first, behind an operand, in parentheses, behind a comparison. */
@@ -46,8 +47,8 @@ public final class TextsEdgesTest {
         due.promise("Terms 2: FAULT, by each byte");
         String[] names = {"fwn", "olt"};
         for (int use = 0; use <= 1; use++) {
-            LipsThatFit x = new LipsThatFit();
             for (int b = 0; b < 256; b++) {
+                LipsThatFit x = new LipsThatFit();
                 boolean digit = b >= '0' && b <= '9';
                 boolean joins = b > 0 && "|&<=>+-*/%".indexOf(b) >= 0;
                 boolean compares = b > 0 && "<=>".indexOf(b) >= 0;
@@ -73,21 +74,20 @@ public final class TextsEdgesTest {
             due("text(1) of " + row[0], Due.text(x, 1, (String) row[0]), 1);
             due(row[0] + " is", x.law(1, 7, 7, 7), (Integer) row[1]);
         }
-        faultOf(x, "12345", 4);
-        faultOf(x, "00000", 4);
-        faultOf(x, "1+12345", 6);
-        faultOf(x, "(12345", 5);
-        faultOf(x, "!12345", 5);
-        faultOf(x, "1234567890", 4);
+        faultOf("12345", 4);
+        faultOf("00000", 4);
+        faultOf("1+12345", 6);
+        faultOf("(12345", 5);
+        faultOf("!12345", 5);
+        faultOf("1234567890", 4);
     }
 
     private static void open() {
         due.promise("Terms 2: at most 5 of ! and ( are open at once");
-        LipsThatFit x = new LipsThatFit();
         for (int n = 1; n <= 7; n++) {
             int fault = n <= 5 ? -1 : 5;
-            faultOf(x, "(".repeat(n) + "1" + ")".repeat(n), fault);
-            faultOf(x, "!".repeat(n) + "1", fault);
+            faultOf("(".repeat(n) + "1" + ")".repeat(n), fault);
+            faultOf("!".repeat(n) + "1", fault);
             // each pattern of ! and ( of that length
             for (int set = 0; set < 1 << n; set++) {
                 StringBuilder text = new StringBuilder();
@@ -95,8 +95,8 @@ public final class TextsEdgesTest {
                     text.append((set >> i & 1) == 1 ? '(' : '!');
                 }
                 text.append("f").append(")".repeat(Integer.bitCount(set)));
-                faultOf(x, text.toString(), fault);
-                faultOf(x, "f+" + text, fault < 0 ? fault : fault + 2);
+                faultOf(text.toString(), fault);
+                faultOf("f+" + text, fault < 0 ? fault : fault + 2);
             }
         }
         due.promise("Terms 2: .. at once: those that are closed don't count");
@@ -104,36 +104,35 @@ public final class TextsEdgesTest {
             "!!!!!1+!!!!!1", "(1+(1+(1+(1+(1+1)))))", "((((1)+(1))))", "!(1)+!(((1)))", "(!!!!1)*(!!!!1)",
             "(((!(1))))|((((1)&!1)))"};
         for (String text : closed) {
-            faultOf(x, text, -1);
+            faultOf(text, -1);
         }
-        faultOf(x, "(!!!!1)*(!!!!(1))", 13);
-        faultOf(x, "(1+(1+(1+(1+(1+(1))))))", 15);
-        faultOf(x, "(1+(1+(1+(1+(1+!1)))))", 15);
-        faultOf(x, "(((((1)))))+((((((", 17);
-        faultOf(x, "((((1))))+(((((1+!", 17);
+        faultOf("(!!!!1)*(!!!!(1))", 13);
+        faultOf("(1+(1+(1+(1+(1+(1))))))", 15);
+        faultOf("(1+(1+(1+(1+(1+!1)))))", 15);
+        faultOf("(((((1)))))+((((((", 17);
+        faultOf("((((1))))+(((((1+!", 17);
     }
 
     private static void ends() {
         due.promise("Terms 2: FAULT: how many there are, if it ends too early");
-        LipsThatFit x = new LipsThatFit();
         String[] early = {"", "!", "(", "1+", "(1", "f<", "f=1|", "!(1", "((((1)))", "!!!!!", "(((((", "1+(2*3"};
         for (String text : early) {
-            faultOf(x, text, text.length());
+            faultOf(text, text.length());
         }
         for (int size = 1; size <= 50; size++) {
             String text = "1+".repeat(25).substring(0, size);
-            faultOf(x, text, size % 2 == 1 ? -1 : size);
+            faultOf(text, size % 2 == 1 ? -1 : size);
             if (size < 50) {
-                faultOf(x, text + ")", size);
+                faultOf(text + ")", size);
             }
         }
         due.promise("Terms 2: a TEXT of all 50 bytes");
-        faultOf(x, "12+" + "1+".repeat(23) + "1", -1);
-        due("1+ 24 times and 12", x.law(0, 0, 0, 0), 36);
-        faultOf(x, "1234" + "*1234".repeat(9) + "1", 49);
-        faultOf(x, "1+".repeat(24) + "1<", 50);
-        faultOf(x, "1+".repeat(24) + "1)", 49);
-        faultOf(x, "1+".repeat(24) + "1!", 49);
+        faultOf("12+" + "1+".repeat(23) + "1", -1);
+        gives("12+" + "1+".repeat(23) + "1", 0, 0, 36);
+        faultOf("1234" + "*1234".repeat(9) + "1", 49);
+        faultOf("1+".repeat(24) + "1<", 50);
+        faultOf("1+".repeat(24) + "1)", 49);
+        faultOf("1+".repeat(24) + "1!", 49);
     }
 
     private static void refused() {
@@ -249,9 +248,9 @@ public final class TextsEdgesTest {
 
     private static void without() {
         due.promise("Terms 2: APART without a TEXT 0 if both are alike, else 5 if one of both is CLOSED, else 1");
-        LipsThatFit x = new LipsThatFit();
         int[] any = {Due.LEAST, -1, 0, 1, 2, 3, 4, Due.MOST};
         for (int f : any) {
+            LipsThatFit x = new LipsThatFit();
             for (int w : any) {
                 for (int n : any) {
                     due("law(0, " + f + ", " + w + ", " + n + ")", x.law(0, f, w, n),
@@ -259,6 +258,7 @@ public final class TextsEdgesTest {
                 }
             }
         }
+        LipsThatFit x = new LipsThatFit();
         due.promise("Terms 2: NOTICE without a TEXT o>3+t/10 (the quotient cut)");
         int[][] bounds = {{0, 3}, {9, 3}, {10, 4}, {11, 4}, {19, 4}, {20, 5}, {99, 12}, {9999, 1002}, {-1, 3}, {-9, 3},
             {-10, 2}, {-19, 2}, {-20, 1}, {-39, 0}, {-40, -1}, {Due.MOST, 214748367}, {Due.LEAST, -214748361}};
