@@ -403,6 +403,28 @@ public final class RestEdgesTest {
         }
     }
 
+    private static void manyCalls() {
+        due.promise("What it is: an object is used for at most 512 calls");
+        LipsThatFit refused = new LipsThatFit();
+        LipsThatFit kept = new LipsThatFit();
+        for (int i = 1; i <= 511; i++) {
+            due("mouthAt(60), call " + i, refused.mouthAt(60), Due.BEYOND);
+            due("image(), call " + i, kept.image(), i);
+        }
+        due("told(1), call 512", refused.told(1), 511);
+        due("image(), call 512", kept.image(), 512);
+        LipsThatFit dear = new LipsThatFit();
+        for (int i = 0; i < 10; i++) {
+            dear.word(11111, i);
+        }
+        Due.text(dear, 0, "1+".repeat(24) + "f");
+        dear.line(0, 45, 15);
+        dear.wanted(0, 27);
+        for (int i = 24; i <= 512; i++) {
+            due("best(0, 0, 2), call " + i, dear.best(0, 0, 2), 9);
+        }
+    }
+
     public static void main(String[] args) {
         seeds();
         voices();
@@ -414,6 +436,7 @@ public final class RestEdgesTest {
         waiting();
         counts();
         told();
+        manyCalls();
         due.end();
     }
 }
