@@ -1,131 +1,231 @@
+import java.util.ArrayList;
+import java.util.List;
 import java.util.Random;
 
-/** All promises: any calls, right and wrong, throw nothing, and an ERROR changes nothing but what told() tells. */
+/** All promises: lives of any calls, right and wrong, each answer compared with the one that Plain tells. */
 public final class AnyCallsTest {
     private static final Due due = new Due();
-    private static final int CALLS = 38;
-    private static final int[] EDGES = {Due.LEAST, Due.LOW, -100, -2, -1, 0, 1, 2, 3, 4, 5, 6, 7, 8, 9, 10, 15, 16, 17,
-        32, 39, 40, 41, 50, 59, 60, 61, 69, 70, 99, 100, 101, 123, 500, 501, 9999, 33333, Due.MOST - 1, Due.MOST};
+    private static final int LIVES = 600;
+    private static final int MOST_CALLS = 512;
+    /** How many calls the look at the end takes, or more. */
+    private static final int LOOK = 180;
+    /** A number that may be any. */
+    private static final long[] ANY = {0, -1};
 
-    private static int any(Random random) {
-        return random.nextInt(3) == 0 ? EDGES[random.nextInt(EDGES.length)] : random.nextInt(7);
+    /** A call, and for each of its numbers the least one and the most one that are tried most often. */
+    private record Shape(String name, long[]... bounds) {
     }
 
-    private static int few(Random random, int most) {
-        return random.nextInt(12) == 0 ? any(random) : random.nextInt(most + 1);
+    private static long[] to(long least, long most) {
+        return new long[] {least, most};
     }
 
-    private static long call(LipsThatFit x, int call, Random r) {
-        return switch (call) {
-            case 0 -> x.mouth(few(r, 59), few(r, 9), few(r, 3));
-            case 1 -> x.mouthAt(few(r, 59));
-            case 2 -> x.word(10 * (1 + few(r, 2)) + 1 + few(r, 2), few(r, 99));
-            case 3 -> x.ofWord(few(r, 9), few(r, 2));
-            case 4 -> x.line(few(r, 69), few(r, 45), few(r, 15));
-            case 5 -> x.ofLine(few(r, 5), few(r, 9));
-            case 6 -> x.said(few(r, 5), few(r, 2));
-            case 7 -> x.become(few(r, 5), few(r, 69));
-            case 8 -> x.as(few(r, 5), few(r, 6));
-            case 9 -> x.wanted(few(r, 5), few(r, 99));
-            case 10 -> x.say(few(r, 5), few(r, 3), few(r, 9), few(r, 9), few(r, 9));
-            case 11 -> x.feed(random(r), few(r, 8));
-            case 12 -> x.text(few(r, 1));
-            case 13 -> x.law(few(r, 1), any(r), any(r), any(r));
-            case 14 -> x.minutes(few(r, 500));
-            case 15 -> x.matinees(few(r, 100));
-            case 16 -> x.best(few(r, 5), few(r, 99), few(r, 4) - 2);
-            case 17 -> x.dearest(few(r, 5), few(r, 99), few(r, 4) - 2);
-            case 18 -> x.heard(few(r, 5), few(r, 4) - 2);
-            case 19 -> x.must(few(r, 5));
-            case 20 -> x.forgotten(few(r, 5));
-            case 21 -> x.like(few(r, 3), few(r, 3), few(r, 99));
-            case 22 -> x.cast(few(r, 4) - 1);
-            case 23 -> x.takes(few(r, 16), few(r, 6), few(r, 1));
-            case 24 -> x.enough(few(r, 16), few(r, 15));
-            case 25 -> x.seed(any(r));
-            case 26 -> x.voice(few(r, 5), few(r, 3), any(r));
-            case 27 -> x.trace(few(r, 40));
-            case 28 -> x.sheet(few(r, 3), 8 << r.nextInt(3), few(r, 40));
-            case 29 -> x.put(few(r, 3), few(r, 39), any(r));
-            case 30 -> x.move(few(r, 3), few(r, 39), few(r, 3), few(r, 39), few(r, 20));
-            case 31 -> x.mouths(few(r, 3));
-            case 32 -> x.judge(few(r, 3));
-            case 33 -> x.image();
-            case 34 -> x.restore();
-            case 35 -> x.tell(few(r, 3));
-            case 36 -> x.check();
-            case 37 -> x.count(few(r, 10));
-            default -> x.told(few(r, 6));
-        };
+    private static final List<Shape> SHAPES = List.of(
+            new Shape("mouth", to(0, 59), to(1, 6), to(0, 3)),
+            new Shape("mouth", to(0, 30), to(10, 30), to(0, 3)),
+            new Shape("mouthAt", to(0, 59)),
+            new Shape("word", to(1, 3), to(0, 40)),
+            new Shape("word", to(11, 33), to(0, 99)),
+            new Shape("ofWord", to(0, 9), to(0, 2)),
+            new Shape("line", to(0, 69), to(0, 45), to(1, 15)),
+            new Shape("ofLine", to(0, 5), to(0, 9)),
+            new Shape("said", to(0, 5), to(0, 2)),
+            new Shape("become", to(0, 5), to(0, 69)),
+            new Shape("as", to(0, 5), to(0, 6)),
+            new Shape("wanted", to(0, 5), to(0, 99)),
+            new Shape("say", to(0, 5), to(0, 3), to(0, 9), to(0, 9), to(0, 9)),
+            new Shape("feed", ANY, to(1, 8)),
+            new Shape("text", to(0, 1)),
+            new Shape("law", to(0, 1), to(0, 99), to(0, 99), to(0, 99)),
+            new Shape("law", to(0, 1), ANY, ANY, ANY),
+            new Shape("minutes", to(1, 500)),
+            new Shape("matinees", to(1, 100)),
+            new Shape("best", to(0, 5), to(0, 99), to(-2, 2)),
+            new Shape("dearest", to(0, 5), to(0, 99), to(-2, 2)),
+            new Shape("heard", to(0, 5), to(-2, 2)),
+            new Shape("must", to(0, 5)),
+            new Shape("forgotten", to(0, 5)),
+            new Shape("like", to(0, 3), to(0, 3), to(0, 99)),
+            new Shape("cast", to(-1, 3)),
+            new Shape("takes", to(1, 16), to(0, 6), to(0, 1)),
+            new Shape("enough", to(1, 16), to(1, 15)),
+            new Shape("seed", ANY),
+            new Shape("voice", to(0, 5), to(0, 3), ANY),
+            new Shape("trace", to(0, 12)),
+            new Shape("sheet", to(0, 3), to(0, 32), to(0, 40)),
+            new Shape("put", to(0, 3), to(0, 12), to(0, 3)),
+            new Shape("put", to(0, 3), to(0, 39), ANY),
+            new Shape("move", to(0, 3), to(0, 12), to(0, 3), to(0, 12), to(0, 12)),
+            new Shape("mouths", to(0, 3)),
+            new Shape("judge", to(0, 3)),
+            new Shape("image"),
+            new Shape("restore"),
+            new Shape("tell", to(0, 3)),
+            new Shape("check"),
+            new Shape("count", to(0, 10)),
+            new Shape("told", to(1, 5)));
+
+    private final Random random;
+    private final LipsThatFit x = new LipsThatFit();
+    private final Plain plain = new Plain();
+    private final List<String> life = new ArrayList<>();
+    private static int errors = 0;
+
+    private AnyCallsTest(long seed) {
+        random = new Random(seed);
+        due.promise("life " + seed);
     }
 
-    /** Bytes that are often a TEXT's. */
-    private static long random(Random random) {
-        String bytes = "1f1w1n1o1l1t!(+-*/%<=>&|)";
-        long word = random.nextLong();
-        for (int i = 0; i < 8; i++) {
-            if (random.nextInt(30) != 0) {
-                word = word << 8 | bytes.charAt(random.nextInt(bytes.length()));
-            }
+    private long both(String name, long... a) {
+        String call = Face.told(name, a);
+        life.add(call);
+        long want = plain.call(name, a);
+        errors += want < Due.LOW ? 1 : 0;
+        due.due("call " + life.size() + ", " + call, Face.call(x, name, a), want);
+        return want;
+    }
+
+    private long pick(long[] bounds) {
+        long least = bounds[0];
+        long most = bounds[1];
+        if (least > most) {
+            return random.nextBoolean() ? random.nextLong() : random.nextInt(40) - 20;
         }
-        return word;
+        if (random.nextInt(30) != 0) {
+            return least + random.nextInt((int) (most - least) + 1);
+        }
+        long[] edges = {least - 1, most + 1, least, most, -1, Due.LEAST, Due.MOST};
+        return edges[random.nextInt(edges.length)];
     }
 
-    /** Which calls answer numbers that may look like an ERROR. */
-    private static boolean isAnyNumber(int call) {
-        return call == 13 || call == 25 || call == 26 || call == 37;
+    private void anyCall() {
+        Shape shape = SHAPES.get(random.nextInt(SHAPES.size()));
+        long[] a = new long[shape.bounds.length];
+        for (int i = 0; i < a.length; i++) {
+            a[i] = pick(shape.bounds[i]);
+            // Face makes ints of those that are to be ints
+            a[i] = shape.name.equals("feed") && i == 0 ? a[i] : (int) a[i];
+        }
+        both(shape.name, a);
     }
 
-    private static int[] look(LipsThatFit x) {
-        int[] seen = new int[120];
-        int at = 0;
+    private void anyWord() {
+        StringBuilder digits = new StringBuilder();
+        for (int i = random.nextInt(5); i >= 0; i--) {
+            digits.append(1 + random.nextInt(3));
+        }
+        both("word", Integer.parseInt(digits.toString()), random.nextInt(100));
+    }
+
+    /** A TEXT, or one with a FAULT, comes to THE TAPE by pieces. */
+    private void anyText() {
+        int use = random.nextInt(2);
+        String names = use == 0 ? "fwn" : "olt";
+        StringBuilder text = new StringBuilder();
+        int open = 0;
+        for (int i = random.nextInt(8); i >= 0; i--) {
+            while (random.nextInt(6) == 0) {
+                boolean not = random.nextBoolean();
+                text.append(not ? '!' : '(');
+                open += not ? 0 : 1;
+            }
+            boolean name = random.nextBoolean();
+            text.append(name ? names.charAt(random.nextInt(3)) : "").append(name ? "" : random.nextInt(random.nextInt(3) == 0 ? 12000 : 9));
+            for (; open > 0 && random.nextInt(3) == 0; open--) {
+                text.append(')');
+            }
+            text.append(i > 0 ? "|&<=>++--**/%".charAt(random.nextInt(13)) : random.nextInt(12) == 0 ? "+" : "");
+        }
+        text.append(")".repeat(open));
+        for (int at = 0; at < text.length();) {
+            int n = Math.min(1 + random.nextInt(8), text.length() - at);
+            long word = random.nextLong();
+            for (int i = n - 1; i >= 0; i--) {
+                word = word << 8 | text.charAt(at + i);
+            }
+            at = both("feed", word, n) < Due.LOW ? text.length() : at + n;
+        }
+        both("text", use);
+    }
+
+    /** A SHEET of a size and of bits that are fine. */
+    private void anySheet() {
+        both("sheet", random.nextInt(4), 8L << random.nextInt(3), random.nextInt(41));
+    }
+
+    /** A SHEET of what LINES are OFF, or nearly so. */
+    private void anyJudge() {
+        int sheet = random.nextInt(4);
+        int lines = (int) both("count", 1);
+        both("sheet", sheet, 8L << random.nextInt(3), lines);
+        for (int line = 0; line < lines; line++) {
+            both("put", sheet, line, both("ofLine", line, 6) + (random.nextInt(10) == 0 ? 1 : 0));
+        }
+        both("judge", sheet);
+    }
+
+    /** Some MOUTHS as they are on THE FILM wait, or nearly so. */
+    private void anyCheck() {
+        long waiting = both("count", 8);
+        for (long tenth = waiting; tenth < 20 && random.nextInt(4) != 0; tenth++) {
+            both("tell", both("mouthAt", tenth) + (random.nextInt(15) == 0 ? 1 : 0));
+        }
+        both("check");
+    }
+
+    private void anyAct() {
+        switch (random.nextInt(60)) {
+            case 0, 1 -> anyText();
+            case 2 -> anySheet();
+            case 3 -> anyJudge();
+            case 4 -> anyCheck();
+            case 5, 6 -> anyWord();
+            default -> anyCall();
+        }
+    }
+
+    private void look() {
         for (int what = 0; what <= 10; what++) {
-            seen[at++] = x.count(what);
+            both("count", what);
         }
         for (int tenth = 0; tenth < 60; tenth++) {
-            seen[at++] = x.mouthAt(tenth);
+            both("mouthAt", tenth);
         }
-        for (int line = 0; line < seen[1]; line++) {
-            seen[at++] = x.ofLine(line, 0) * 10 + x.ofLine(line, 1);
-            seen[at++] = x.ofLine(line, 4);
+        for (int line = 0; line < 6; line++) {
+            for (int what = 0; what <= 9; what++) {
+                both("ofLine", line, what);
+            }
         }
-        seen[at++] = x.cast(-1);
-        seen[at++] = x.law(0, 1, 2, 3);
-        seen[at++] = x.law(1, 5, 6, 7);
-        return seen;
+        for (int word = 0; word < 10; word++) {
+            both("ofWord", word, 0);
+        }
+        for (int i = 0; i < 13; i++) {
+            both("trace", i);
+        }
+        for (int k = 1; k <= 5; k++) {
+            both("told", k);
+        }
     }
 
-    private static int toldAll(LipsThatFit x) {
-        return x.told(1) + x.told(2) + x.told(3) + x.told(4) + x.told(5);
+    private void live() {
+        for (int i = random.nextInt(8); i >= 0; i--) {
+            anyWord();
+        }
+        for (int i = random.nextInt(5); i >= 0; i--) {
+            both("line", random.nextInt(70), random.nextInt(46), 1 + random.nextInt(15));
+        }
+        while (life.size() < MOST_CALLS - LOOK - 40) {
+            anyAct();
+        }
+        look();
+        due.due("calls above 512", Math.max(0, life.size() - MOST_CALLS), 0);
     }
 
     public static void main(String[] args) {
-        Random random = new Random(4);
-        int errors = 0;
-        for (int round = 0; round < 3000; round++) {
-            LipsThatFit x = new LipsThatFit();
-            x.word(1 + random.nextInt(3), random.nextInt(100));
-            x.line(random.nextInt(70), random.nextInt(46), 1 + random.nextInt(15));
-            for (int i = 0; i < 230; i++) {
-                call(x, random.nextInt(CALLS + 1), random);
-            }
-            // at most 512 calls for each object: what is left is for the looks
-            int call = random.nextInt(CALLS);
-            int[] before = look(x);
-            int told = toldAll(x);
-            long answer = call(x, call, random);
-            boolean error = !isAnyNumber(call) && answer < Due.LOW;
-            due.promise("call " + call);
-            due.due("told() is 1 more by an ERROR", toldAll(x), isAnyNumber(call) ? toldAll(x) : told + (error ? 1 : 0));
-            if (error) {
-                errors++;
-                int[] after = look(x);
-                for (int i = 0; i < before.length; i++) {
-                    due.due("look " + i + " by an ERROR", after[i], before[i]);
-                }
-            }
+        for (int seed = 0; seed < LIVES; seed++) {
+            new AnyCallsTest(seed).live();
         }
-        due.due("ERRORS were tried", errors > 200 ? 1 : 0, 1);
+        due.due("ERRORS were tried", errors > 1000 ? 1 : 0, 1);
         due.end();
     }
 }

@@ -25,6 +25,10 @@ public final class LanguageTest {
             "must", "forgotten", "like", "cast", "takes", "enough", "seed", "voice", "trace", "sheet", "put", "move",
             "mouths", "judge", "image", "restore", "tell", "check", "count", "told");
 
+    /** The types of static fields that there may be. */
+    private static final Set<String> CONSTANTS = Set.of("int", "long", "boolean", "char", "String", "int[]", "long[]",
+            "char[]", "byte[]");
+
     private static void due(String call, long got, long want) {
         due.due(call, got, want);
     }
@@ -74,11 +78,15 @@ public final class LanguageTest {
                 fields += isStatic ? 0 : 1;
                 due(field.getName() + " is static and not final",
                         isStatic && !Modifier.isFinal(field.getModifiers()) ? 1 : 0, 0);
+                due(field.getName() + " is static and of another type than may be",
+                        isStatic && !CONSTANTS.contains(field.getType().getSimpleName()) ? 1 : 0, 0);
             }
             due(each.getName() + "'s fields", Math.max(20, fields), 20);
             due(each.getName() + " is static", each == LipsThatFit.class || Modifier.isStatic(each.getModifiers()) ? 1 : 0, 1);
             for (Method method : each.getDeclaredMethods()) {
                 due(method.getName() + "'s parameters", Math.max(7, method.getParameterCount()), 7);
+                due(method.getName() + " bears a name of the face",
+                        each != LipsThatFit.class && FACE.contains(method.getName()) ? 1 : 0, 0);
             }
         }
     }
@@ -96,7 +104,7 @@ public final class LanguageTest {
         }
     }
 
-    /** By each method of the class and those inside it, which of them it calls. */
+    /** By each method of the class and those inside it, which of them it calls; what makes an object calls "new". */
     private static Map<String, Set<String>> calls() {
         Map<String, Set<String>> calls = new HashMap<>();
         ToolProvider javap = ToolProvider.findFirst("javap").orElseThrow();
@@ -106,11 +114,14 @@ public final class LanguageTest {
             javap.run(out, out, "-c", "-p", "-cp", System.getProperty("java.class.path"), each.getName());
             Set<String> called = new TreeSet<>();
             for (String line : text.toString().split("\n")) {
-                Matcher method = Pattern.compile("^ {2}\\S.*?([\\w$]+)\\(.*\\);$").matcher(line);
+                Matcher method = Pattern.compile("^ {2}(?:\\S+ )*(?:([\\w$]+)\\(.*\\)|static \\{\\});$").matcher(line);
                 Matcher call = Pattern.compile("// (?:Interface)?Method (?:([\\w$]+)\\.)?\"?([\\w$<>]+)\"?:\\(").matcher(line);
                 if (method.find()) {
                     called = new TreeSet<>();
-                    calls.put(each.getName() + "." + method.group(1).replace(each.getName(), "<init>"), called);
+                    String name = method.group(1) == null ? "<clinit>" : method.group(1);
+                    calls.put(each.getName() + "." + (name.equals(each.getName()) ? "<init>" : name), called);
+                } else if (line.matches(" +\\d+: (new|newarray|anewarray|multianewarray|invokedynamic) .*")) {
+                    called.add("new");
                 } else if (call.find()) {
                     called.add((call.group(1) == null ? each.getName() : call.group(1)) + "." + call.group(2));
                 }
@@ -133,9 +144,20 @@ public final class LanguageTest {
         return 1 + deepest;
     }
 
-    private static void depths() {
+    private static void makers(Map<String, Set<String>> calls) {
+        due.promise("LANGUAGE.md, 12: what a run makes is kept small: constructors alone make objects");
+        int makers = 0;
+        for (Map.Entry<String, Set<String>> method : calls.entrySet()) {
+            boolean makes = method.getValue().contains("new");
+            makers += makes ? 1 : 0;
+            boolean constructs = method.getKey().endsWith(".<init>") || method.getKey().endsWith(".<clinit>");
+            due(method.getKey() + " makes an object", makes && !constructs ? 1 : 0, 0);
+        }
+        due("constructors that make objects were found", makers > 0 ? 1 : 0, 1);
+    }
+
+    private static void depths(Map<String, Set<String>> calls) {
         due.promise("LANGUAGE.md, 11: calls that are no recursion go at most eight deep");
-        Map<String, Set<String>> calls = calls();
         int deepest = 0;
         for (String method : FACE) {
             int depth = depth(calls, "LipsThatFit." + method, new ArrayList<>());
@@ -150,7 +172,9 @@ public final class LanguageTest {
         words(source);
         members();
         lengths(source);
-        depths();
+        Map<String, Set<String>> calls = calls();
+        depths(calls);
+        makers(calls);
         due.end();
     }
 }

@@ -1,3 +1,5 @@
+import java.util.List;
+
 /** Promises 27 to 40: draws, voices, sheets, images, what is told. */
 public final class RestTest {
     private static final Due due = new Due();
@@ -19,111 +21,6 @@ public final class RestTest {
         due("told(1)", x.told(1), 0);
     }
 
-    /** The KINDS as the document tells them: with super as Java has it. */
-    private static class Spoken {
-        int n;
-        int m;
-        final StringBuilder trace = new StringBuilder();
-
-        int note(int body) {
-            trace.append(body).append(' ');
-            return 0;
-        }
-
-        int fits(int x) {
-            note(10);
-            return x + n;
-        }
-
-        int says(int x) {
-            note(11);
-            return fits(x) * 2;
-        }
-
-        int ends(int x) {
-            note(12);
-            return x - m;
-        }
-
-        int tells(int x) {
-            note(13);
-            return says(x) ^ ends(x);
-        }
-    }
-
-    private static class Near extends Spoken {
-        @Override
-        int fits(int x) {
-            note(20);
-            return super.fits(x) * 3;
-        }
-    }
-
-    private static class Far extends Spoken {
-        @Override
-        int says(int x) {
-            note(30);
-            return super.says(x) - ends(1);
-        }
-    }
-
-    private static class Turned extends Spoken {
-        @Override
-        int ends(int x) {
-            note(40);
-            return -super.ends(x);
-        }
-    }
-
-    private static final class Laughed extends Near {
-        @Override
-        int tells(int x) {
-            note(50);
-            return super.tells(x) - fits(2);
-        }
-    }
-
-    private static final class Named extends Far {
-        @Override
-        int says(int x) {
-            note(60);
-            return super.says(x + 1);
-        }
-    }
-
-    private static final class Breathed extends Turned {
-        @Override
-        int ends(int x) {
-            note(70);
-            return super.ends(x) ^ n;
-        }
-
-        @Override
-        int tells(int x) {
-            note(71);
-            return says(x) - super.tells(x);
-        }
-    }
-
-    private static Spoken spoken(int kind, int m, int n) {
-        Spoken spoken = switch (kind) {
-            case 1 -> new Near();
-            case 2 -> new Far();
-            case 3 -> new Turned();
-            case 4 -> new Laughed();
-            case 5 -> new Named();
-            case 6 -> new Breathed();
-            default -> new Spoken();
-        };
-        spoken.m = m;
-        spoken.n = n;
-        return spoken;
-    }
-
-    private static int act(Spoken spoken, int act, int x) {
-        return act == 0 ? spoken.fits(x) : act == 1 ? spoken.says(x) : act == 2 ? spoken.ends(x) : spoken.tells(x);
-    }
-
     private static void voice() {
         due.promise("promises 28 and 29");
         int[] numbers = {0, 1, 2, -5, 1234567, Due.MOST, Due.LEAST, 1431655766};
@@ -135,22 +32,21 @@ public final class RestTest {
                 }
                 for (int act = 0; act < 4; act++) {
                     int line = (act + kind) % 6;
-                    Spoken spoken = spoken(kind, (3 * line + 2) % 10, line);
+                    Spoken spoken = Spoken.of(kind, (3 * line + 2) % 10, line);
                     due("KIND " + kind + ", voice(" + line + ", " + act + ", " + number + ")",
-                            x.voice(line, act, number), act(spoken, act, number));
-                    trace(x, "KIND " + kind + ", act " + act, spoken.trace.toString());
+                            x.voice(line, act, number), spoken.act(act, number));
+                    trace(x, "KIND " + kind + ", act " + act, spoken.trace);
                 }
             }
         }
     }
 
-    private static void trace(LipsThatFit x, String of, String trace) {
-        String[] bodies = trace.trim().split(" ");
-        due(of + ", count(9)", x.count(9), bodies.length);
-        for (int i = 0; i < bodies.length; i++) {
-            due(of + ", trace(" + i + ")", x.trace(i), Integer.parseInt(bodies[i]));
+    private static void trace(LipsThatFit x, String of, List<Integer> bodies) {
+        due(of + ", count(9)", x.count(9), bodies.size());
+        for (int i = 0; i < bodies.size(); i++) {
+            due(of + ", trace(" + i + ")", x.trace(i), bodies.get(i));
         }
-        due(of + ", trace(" + bodies.length + ")", x.trace(bodies.length), Due.NONE);
+        due(of + ", trace(" + bodies.size() + ")", x.trace(bodies.size()), Due.NONE);
     }
 
     private static void wrongVoice() {

@@ -151,78 +151,9 @@ public final class TextsTest {
         for (int i = 0; i < (level == 2 ? Math.min(1, more) : more); i++) {
             char sign = signs[level].charAt(random.nextInt(signs[level].length()));
             Made next = make(random, level + 1, open);
-            made = new Made(made.text + sign + next.text, joined(sign, made.value, next.value));
+            made = new Made(made.text + sign + next.text, PlainText.joined(sign, made.value, next.value));
         }
         return made;
-    }
-
-    private static int joined(char sign, int a, int b) {
-        return switch (sign) {
-            case '|' -> a != 0 || b != 0 ? 1 : 0;
-            case '&' -> a != 0 && b != 0 ? 1 : 0;
-            case '<' -> a < b ? 1 : 0;
-            case '=' -> a == b ? 1 : 0;
-            case '>' -> a > b ? 1 : 0;
-            case '+' -> a + b;
-            case '-' -> a - b;
-            case '*' -> a * b;
-            case '/' -> b == 0 ? 0 : a / b;
-            default -> b == 0 ? 0 : a % b;
-        };
-    }
-
-    /** FAULT by a walk over the bytes with what is open as a stack; -1: none. */
-    private static int faultOf(String text) {
-        // each entry of the stack: '!' or '(' ; with '(' goes whether < = > came already in its B
-        char[] stack = new char[8];
-        boolean[] compared = new boolean[8];
-        int top = 0;
-        boolean operand = true;
-        int digits = 0;
-        for (int i = 0; i < text.length(); i++) {
-            char c = text.charAt(i);
-            if (operand) {
-                if (c == '!' || c == '(') {
-                    if (top == 5) {
-                        return i;
-                    }
-                    top++;
-                    stack[top] = c;
-                    compared[top] = false;
-                    continue;
-                }
-                boolean digit = c >= '0' && c <= '9';
-                if (!digit && "olt".indexOf(c) < 0) {
-                    return i;
-                }
-                digits = digit ? 1 : 9;
-                operand = false;
-            } else if (c >= '0' && c <= '9') {
-                digits++;
-                if (digits > 4) {
-                    return i;
-                }
-                continue;
-            } else if (c == ')') {
-                if (top == 0) {
-                    return i;
-                }
-                top--;
-                digits = 9;
-            } else if ("|&<=>+-*/%".indexOf(c) >= 0) {
-                if ("<=>".indexOf(c) >= 0 && compared[top]) {
-                    return i;
-                }
-                compared[top] = "<=>".indexOf(c) >= 0 || c != '|' && c != '&' && compared[top];
-                operand = true;
-            } else {
-                return i;
-            }
-            while (!operand && top > 0 && stack[top] == '!') {
-                top--;
-            }
-        }
-        return operand || top > 0 ? text.length() : -1;
     }
 
     private static void anyTexts() {
@@ -252,7 +183,7 @@ public final class TextsTest {
                 }
             }
             if (spoilt.length() <= 50) {
-                int fault = faultOf(spoilt.toString());
+                int fault = PlainText.faultOf(spoilt.toString(), "olt");
                 due("text(1) of " + spoilt, Due.text(x, 1, spoilt.toString()), fault < 0 ? 1 : -10 - fault);
             }
         }
