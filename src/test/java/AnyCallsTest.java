@@ -129,12 +129,17 @@ public final class AnyCallsTest {
                 text.append(not ? '!' : '(');
                 open += not ? 0 : 1;
             }
-            boolean name = random.nextBoolean();
-            text.append(name ? names.charAt(random.nextInt(3)) : "").append(name ? "" : random.nextInt(random.nextInt(3) == 0 ? 12000 : 9));
+            if (random.nextBoolean()) {
+                text.append(names.charAt(random.nextInt(3)));
+            } else {
+                text.append(random.nextInt(random.nextInt(3) == 0 ? 12000 : 9));
+            }
             for (; open > 0 && random.nextInt(3) == 0; open--) {
                 text.append(')');
             }
-            text.append(i > 0 ? "|&<=>++--**/%".charAt(random.nextInt(13)) : random.nextInt(12) == 0 ? "+" : "");
+            if (i > 0 || random.nextInt(12) == 0) {
+                text.append("|&<=>++--**/%".charAt(random.nextInt(13)));
+            }
         }
         text.append(")".repeat(open));
         for (int at = 0; at < text.length();) {

@@ -1,4 +1,5 @@
 import java.lang.reflect.Method;
+import java.lang.reflect.Modifier;
 import java.util.Arrays;
 import java.util.Map;
 import java.util.TreeMap;
@@ -9,7 +10,7 @@ final class Face {
 
     static {
         for (Method method : LipsThatFit.class.getDeclaredMethods()) {
-            if (java.lang.reflect.Modifier.isPublic(method.getModifiers())) {
+            if (Modifier.isPublic(method.getModifiers())) {
                 CALLS.put(method.getName(), method);
             }
         }
