@@ -128,6 +128,50 @@ public final class WouldBeEdgesTest {
         found("HEARD at THE FILM's end", what -> x.heard(1, what), 4, 0);
     }
 
+    /** Some WORDS, and a LINE that is to have all SENSE that there can be. */
+    private static LipsThatFit few(int words) {
+        LipsThatFit x = new LipsThatFit();
+        int[] digits = {11, 2, 3};
+        for (int i = 0; i < words; i++) {
+            x.word(digits[i], 10);
+        }
+        x.line(0, 0, 3);
+        x.wanted(0, 99);
+        return x;
+    }
+
+    /** The call is done with more WORDS, which are gone then. */
+    private static void withMore(LipsThatFit x, Act call) {
+        for (int i = 0; i < 4; i++) {
+            x.word(1, 20 + i);
+        }
+        call.on(x);
+        x.restore();
+    }
+
+    private static void behindMoreWords() {
+        due.promise("promises 18 to 20, 36: of the WORDS that there are, not of those that there were");
+        for (int words = 0; words <= 3; words++) {
+            LipsThatFit x = few(words);
+            LipsThatFit y = few(words);
+            x.image();
+            for (int i = -2; i <= 2; i++) {
+                int what = i;
+                for (int v : new int[] {0, 79, 99}) {
+                    String call = v + ", " + what + ") of " + words + " WORDS";
+                    withMore(x, z -> z.best(0, v, what));
+                    due("best(0, " + call, x.best(0, v, what), y.best(0, v, what));
+                    withMore(x, z -> z.dearest(0, v, what));
+                    due("dearest(0, " + call, x.dearest(0, v, what), y.dearest(0, v, what));
+                }
+                withMore(x, z -> z.heard(0, what));
+                due("heard(0, " + what + ") of " + words, x.heard(0, what), y.heard(0, what));
+            }
+            due("best(0, 99, 0) of " + words, x.best(0, 99, 0), words == 0 ? Due.NONE : 0);
+            due("best(0, 99, -2) of " + words, x.best(0, 99, -2), words == 0 ? Due.NONE : 1);
+        }
+    }
+
     private static void oneBehindAnother() {
         due.promise("promises 18 to 20: what was asked ahead doesn't matter");
         LipsThatFit x = new LipsThatFit();
@@ -313,6 +357,7 @@ public final class WouldBeEdgesTest {
         dearest();
         heard();
         oneBehindAnother();
+        behindMoreWords();
         must();
         forgotten();
         likes();
